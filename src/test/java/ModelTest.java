@@ -10,6 +10,8 @@ public final class ModelTest {
     private static final int CALLS = 512;
 
     private static final class Refused extends RuntimeException {
+        private static final long serialVersionUID = 1L;
+
         Refused(String name) {
             super(name);
         }
@@ -588,6 +590,8 @@ public final class ModelTest {
     private final int run;
     private final int spread;
     private final boolean isRisky;
+    // All in one place, with much room for moves.
+    private final boolean isDense;
     private final Model m = new Model();
     private final Bandplan p = new Bandplan();
     private int number;
@@ -595,7 +599,8 @@ public final class ModelTest {
     private ModelTest(int run) {
         this.run = run;
         random = new Random(run);
-        spread = 1 + random.nextInt(20);
+        isDense = run % 3 == 0;
+        spread = isDense ? 1 + random.nextInt(2) : 1 + random.nextInt(20);
         isRisky = random.nextInt(4) == 0;
     }
 
@@ -628,8 +633,8 @@ public final class ModelTest {
     private void addStation() {
         int a = pick(0, m.sites.size() - 1);
         int b = pick(0, m.sites.size() - 1);
-        int power = pick(random.nextInt(2) * 300, 500);
-        boolean is = random.nextInt(4) > 0;
+        int power = isDense ? pick(390, 410) : pick(random.nextInt(2) * 300, 500);
+        boolean is = random.nextInt(isDense ? 8 : 4) > 0;
         check("addStation", () -> m.addStation(a, b, power, is), () -> p.addStation(a, b, power, is));
     }
 
@@ -687,7 +692,7 @@ public final class ModelTest {
     private void auction(int kind) {
         int s = station();
         int channels = pick(1, 8);
-        int price = random.nextInt(3) == 0 ? pick(1, 9999) : pick(1, 300);
+        int price = random.nextInt(3) == 0 ? pick(1, isDense ? 50 : 9999) : pick(1, 300);
         int asked = random.nextInt(3) == 0 ? pick(0, 9999) : pick(0, 300);
         int step = price > 300 ? pick(50, 999) : pick(1, 120);
         int crews = pick(1, 4);
