@@ -493,6 +493,16 @@ public final class PromiseTest {
             }
         }
         yes("34 many days", y.isSound());
+        Bandplan z = oneCell(400);
+        for (int i = 0; i < 400; i++) {
+            z.putOn(0, i % 8);
+        }
+        z.goOn(1);
+        z.putOn(0, 3);
+        z.goOn(1);
+        z.putOff(0);
+        same("13 many changes a day", z.channelOf(0, 0), 7);
+        same("13 the day behind", z.channelOf(0, 1), 3);
     }
 
     private static void promise14() {
