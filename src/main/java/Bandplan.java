@@ -801,7 +801,8 @@ public final class Bandplan {
 
         private int lowerTooNear(int station, int channel) {
             for (int i = 0; i < station; i++) {
-                if (isIn(i, members) && areTooNear(station, channel, i, places.at(i))) {
+                int apart = Math.abs(channel - places.at(i));
+                if (isIn(i, members) && apart < spacing.at(station * MOST_STATIONS + i)) {
                     return i;
                 }
             }

@@ -12,18 +12,10 @@ import java.util.regex.Matcher;
 import java.util.regex.Pattern;
 
 /** The face of the class, the exceptions that leave it, and the rules of LANGUAGE.md that a text search can see. */
-public final class FaceTest {
+public final class FaceTest extends Checks {
     private static final int HOSTILE_CALLS = 200000;
     private static final Path SOURCE = Path.of("src/main/java/Bandplan.java");
     private static final Path DOCUMENT = Path.of("../shared/DOC.md");
-
-    private static int wrong;
-
-    private static void tell(String what) {
-        if (wrong++ < 20) {
-            System.out.println(what);
-        }
-    }
 
     /** The document's own lines, such as "public int rounds();", against the methods there are. */
     private static void face() throws IOException {
@@ -133,10 +125,7 @@ public final class FaceTest {
                 method.invoke(x, arguments);
             } catch (InvocationTargetException e) {
                 Class<?> thrown = e.getCause().getClass();
-                // The class itself throws, never the machine or the library in its place.
-                boolean isOwn = e.getCause().getMessage() != null
-                    && e.getCause().getStackTrace()[0].getClassName().equals("Bandplan");
-                if (!isOwn || !Arrays.asList(method.getExceptionTypes()).contains(thrown)) {
+                if (!isOwn(e.getCause()) || !Arrays.asList(method.getExceptionTypes()).contains(thrown)) {
                     tell(method.getName() + Arrays.toString(arguments) + " throws " + e.getCause());
                 }
             }
@@ -147,9 +136,6 @@ public final class FaceTest {
         face();
         rules();
         hostile();
-        System.out.println(wrong == 0 ? "the face is as due" : wrong + " faults in the face");
-        if (wrong != 0) {
-            System.exit(1);
-        }
+        end("the face is as due");
     }
 }

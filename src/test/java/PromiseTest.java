@@ -1,91 +1,5 @@
-import java.util.NoSuchElementException;
-
 /** The promises one by one: ordinary inputs, the edges that the document names, and wrong inputs. */
-public final class PromiseTest {
-    private static final Class<?> BOUNDS = IndexOutOfBoundsException.class;
-    private static final Class<?> ARGUMENT = IllegalArgumentException.class;
-    private static final Class<?> STATE = IllegalStateException.class;
-    private static final Class<?> UNSUPPORTED = UnsupportedOperationException.class;
-    private static final Class<?> MISSING = NoSuchElementException.class;
-    private static final Class<?> ARITHMETIC = ArithmeticException.class;
-
-    private interface Call {
-        void run();
-    }
-
-    private static int wrong;
-
-    private static void tell(String what) {
-        wrong++;
-        System.out.println(what);
-    }
-
-    private static void same(String what, double got, double want) {
-        if (got != want) {
-            tell(what + ": answered " + got + ", due is " + want);
-        }
-    }
-
-    private static void yes(String what, boolean got) {
-        if (!got) {
-            tell(what + ": is false, due is true");
-        }
-    }
-
-    private static void no(String what, boolean got) {
-        if (got) {
-            tell(what + ": is true, due is false");
-        }
-    }
-
-    private static void fails(String what, Class<?> due, Call call) {
-        try {
-            call.run();
-            tell(what + ": throws nothing, due is " + due.getSimpleName());
-        } catch (RuntimeException e) {
-            if (e.getClass() != due) {
-                tell(what + ": throws " + e + ", due is " + due.getSimpleName());
-            }
-        }
-    }
-
-    /** Two sites in one cell, all losses between them 200, and stations from one to the other. */
-    private static Bandplan oneCell(int... powers) {
-        Bandplan x = new Bandplan();
-        x.addSite(3, 3, 0);
-        x.addSite(3, 3, 0);
-        for (int power : powers) {
-            x.addStation(0, 1, Math.abs(power), power > 0);
-        }
-        return x;
-    }
-
-    /** Three stations, each in a cell of its own; the first one is 3 cells away from the others. */
-    private static Bandplan threeCells() {
-        Bandplan x = new Bandplan();
-        int[][] cells = {{0, 0}, {3, 0}, {0, 3}};
-        for (int i = 0; i < 3; i++) {
-            x.addSite(cells[i][0], cells[i][1], 0);
-            x.addSite(cells[i][0], cells[i][1], 0);
-            x.addStation(2 * i, 2 * i + 1, 500, true);
-        }
-        return x;
-    }
-
-    private static void askAll(Bandplan x, int... prices) {
-        for (int i = 0; i < prices.length; i++) {
-            x.setAsked(i, prices[i]);
-        }
-    }
-
-    private static void putAll(Bandplan x, int... channels) {
-        for (int i = 0; i < channels.length; i++) {
-            if (channels[i] >= 0) {
-                x.putOn(i, channels[i]);
-            }
-        }
-    }
-
+public final class PromiseTest extends Checks {
     private static void promise1() {
         Bandplan x = new Bandplan();
         same("1 rounds", x.rounds(), 0);
@@ -757,17 +671,6 @@ public final class PromiseTest {
         same("28 one", y.pays(1), 0);
     }
 
-    /** All stations stay at once. */
-    private static Bandplan sold(int channels, int[] places, int... powers) {
-        Bandplan x = oneCell(powers);
-        putAll(x, places);
-        for (int i = 0; i < powers.length; i++) {
-            x.setAsked(i, 100);
-        }
-        x.sell(50, 5, channels);
-        return x;
-    }
-
     private static void promise29to31() {
         Bandplan x = oneCell(400);
         fails("29 crews 0", ARGUMENT, () -> x.move(0));
@@ -990,9 +893,6 @@ public final class PromiseTest {
         promise29to31();
         promise32and33();
         promise34();
-        System.out.println(wrong == 0 ? "all promises hold" : wrong + " answers are not as due");
-        if (wrong != 0) {
-            System.exit(1);
-        }
+        end("all promises hold");
     }
 }
