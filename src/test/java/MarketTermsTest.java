@@ -297,8 +297,9 @@ public final class MarketTermsTest extends Checks {
         sentence("In each phase, by rising numbers, at most as many as there are crews move: each one whose new channel"
             + " is not barred by a protected station that is on, wherever it is when its turn comes.",
             MarketTermsTest::phases);
-        sentence("If none can, the lowest one that is on and has not moved goes off, which is a dark one, and this phase"
-            + " is over and counts; one that went off so moves likewise, by being on.", MarketTermsTest::darkOnes);
+        sentence("If none can, the lowest one that is on and has not moved goes off, which is a dark one, and this"
+            + " phase is over and counts; one that went off so moves likewise, by being on.",
+            MarketTermsTest::darkOnes);
         sentence("If none can, and none that has not moved is on, the move is over, and the others stay off, in no"
             + " phase.", MarketTermsTest::moveIsOver);
         sentence("Who is there already is moved in the phase 0; other phases count from 1 on.",
