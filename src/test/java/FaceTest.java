@@ -14,6 +14,9 @@ import java.util.regex.Pattern;
 /** The face of the class, the exceptions that leave it, and the rules of LANGUAGE.md that a text search can see. */
 public final class FaceTest extends Checks {
     private static final int HOSTILE_CALLS = 200000;
+    private static final int MOST_CLASSES = 12;
+    private static final int MOST_FIELDS = 20;
+    private static final int MOST_PARAMETERS = 7;
     private static final Path SOURCE = Path.of("src/main/java/Bandplan.java");
     private static final Path DOCUMENT = Path.of("../shared/DOC.md");
 
@@ -63,6 +66,37 @@ public final class FaceTest extends Checks {
         for (Class<?> inside : Bandplan.class.getDeclaredClasses()) {
             if (!Modifier.isStatic(inside.getModifiers()) || Modifier.isPublic(inside.getModifiers())) {
                 tell("not a private static class: " + inside);
+            }
+        }
+    }
+
+    /** Rule 11, as far as it can be seen from outside, and rule 5: static fields are final. */
+    private static void sizes() {
+        Class<?>[] inside = Bandplan.class.getDeclaredClasses();
+        if (inside.length + 1 > MOST_CLASSES) {
+            tell("more than " + MOST_CLASSES + " classes: " + (inside.length + 1));
+        }
+        sizesOf(Bandplan.class);
+        for (Class<?> type : inside) {
+            sizesOf(type);
+        }
+    }
+
+    private static void sizesOf(Class<?> type) {
+        int fields = 0;
+        for (Field field : type.getDeclaredFields()) {
+            boolean isStatic = Modifier.isStatic(field.getModifiers());
+            fields += isStatic ? 0 : 1;
+            if (isStatic && !Modifier.isFinal(field.getModifiers())) {
+                tell("static and not final: " + field);
+            }
+        }
+        if (fields > MOST_FIELDS) {
+            tell("more than " + MOST_FIELDS + " fields: " + type);
+        }
+        for (Method method : type.getDeclaredMethods()) {
+            if (method.getParameterCount() > MOST_PARAMETERS) {
+                tell("more than " + MOST_PARAMETERS + " parameters: " + method);
             }
         }
     }
@@ -134,6 +168,7 @@ public final class FaceTest extends Checks {
 
     public static void main(String[] args) throws IOException, IllegalAccessException {
         face();
+        sizes();
         rules();
         hostile();
         end("the face is as due");
